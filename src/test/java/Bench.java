@@ -1,0 +1,122 @@
+/** What the tests share: calls with texts, answers that are due, and the sum at the end. */
+final class Bench {
+    private static int wrong = 0;
+    private static int asked = 0;
+
+    private Bench() {
+    }
+
+    static void due(String what, long got, long want) {
+        asked++;
+        if (got != want) {
+            wrong++;
+            System.out.println(what + " answered " + got + ", due is " + want);
+        }
+    }
+
+    static void finish(String test) {
+        System.out.println(test + ": " + asked + " answers, " + wrong + " wrong");
+        if (wrong != 0) {
+            System.exit(1);
+        }
+    }
+
+    /** Lays some bytes on an empty tape. */
+    static void tape(PlantKeeper x, int... bytes) {
+        int i = 0;
+        for (; i < bytes.length; i += 20) {
+            int[] w = new int[5];
+            for (int k = 0; k < 20; k++) {
+                int b = i + k < bytes.length ? bytes[i + k] : 0;
+                w[k / 4] |= (b & 255) << 24 - 8 * (k % 4);
+            }
+            x.feed(w[0], w[1], w[2], w[3], w[4]);
+        }
+        if (i != bytes.length) {
+            x.end(20 - (i - bytes.length));
+        }
+    }
+
+    static void tape(PlantKeeper x, String text) {
+        int[] bytes = new int[text.length()];
+        for (int i = 0; i < bytes.length; i++) {
+            bytes[i] = text.charAt(i);
+        }
+        tape(x, bytes);
+    }
+
+    static int load(PlantKeeper x, String text) {
+        return load(x, text, 100000);
+    }
+
+    static int load(PlantKeeper x, String text, int budget) {
+        tape(x, text);
+        return x.load(budget);
+    }
+
+    /** A new object with a text that is due to load. */
+    static PlantKeeper loaded(String text) {
+        PlantKeeper x = new PlantKeeper();
+        due("load " + text, load(x, text), 0);
+        return x;
+    }
+
+    /** A text is due to be refused; the place is where the mark @ stands in it, which is left out. */
+    static void refused(int fault, String marked) {
+        refused(fault, marked, 100000);
+    }
+
+    static void refused(int fault, String marked, int budget) {
+        int place = marked.indexOf('@');
+        String text = place < 0 ? marked : marked.substring(0, place) + marked.substring(place + 1);
+        PlantKeeper x = new PlantKeeper();
+        due("load " + marked, load(x, text, budget), fault);
+        due("count(0) of " + marked, x.count(0), fault);
+        due("place of " + marked, x.count(1), fault == 0 ? PlantKeeper.NONE : Math.max(place, 0));
+    }
+
+    static void accepted(String text) {
+        refused(0, text);
+    }
+
+    /** What a path comes to, which is due to be of a type. */
+    static void watched(PlantKeeper x, String path, int type, int value) {
+        tape(x, path);
+        due("watch " + path, x.watch(), type);
+        due("watched " + path, x.watched(), value);
+    }
+
+    static void notWatched(PlantKeeper x, String path) {
+        int before = x.watched();
+        tape(x, path);
+        due("watch " + path, x.watch(), PlantKeeper.BAD);
+        due("watched behind " + path, x.watched(), before);
+    }
+
+    /** A frame with its check sum behind it. */
+    static int[] sealed(int... bytes) {
+        int sum = 0xFFFF;
+        for (int b : bytes) {
+            sum ^= b;
+            for (int i = 0; i < 8; i++) {
+                sum = (sum & 1) != 0 ? (sum >> 1) ^ 0xA001 : sum >> 1;
+            }
+        }
+        int[] all = java.util.Arrays.copyOf(bytes, bytes.length + 2);
+        all[bytes.length] = sum & 255;
+        all[bytes.length + 1] = sum >> 8;
+        return all;
+    }
+
+    /** A request is due to be replied to with these bytes and their check sum; none is silence. */
+    static void replied(PlantKeeper x, int[] request, int... reply) {
+        String what = java.util.Arrays.toString(request);
+        int[] want = reply.length == 0 ? reply : sealed(reply);
+        tape(x, sealed(request));
+        due("frame " + what, x.frame(), want.length);
+        for (int i = 0; i < want.length; i++) {
+            due("byteAt " + i + " of " + what, x.byteAt(i), want[i]);
+        }
+        due("behind the out of " + what, x.byteAt(want.length), PlantKeeper.BAD);
+    }
+}
