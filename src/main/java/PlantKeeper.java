@@ -97,7 +97,7 @@ public final class PlantKeeper {
             note(judge.judge(), judge.faultPlace);
         }
         if (fault == 0) {
-            note(codeAll(), 0);
+            note(coder.codeAll(), 0);
         }
         if (fault == 0) {
             proveAll(budget);
@@ -113,14 +113,6 @@ public final class PlantKeeper {
             fault = found;
             faultPlace = where;
         }
-    }
-
-    private int codeAll() {
-        if (plan.blocks - Plan.STANDARD > MOST_UNITS) {
-            return 50;
-        }
-        coder.codeAll();
-        return code.size > MOST_INSTRUCTIONS ? 50 : 0;
     }
 
     private void proveAll(int budget) {
@@ -726,7 +718,10 @@ public final class PlantKeeper {
         private final Tree tree;
         private int fault;
         private int at;
+        /** The kind of the token that is looked at, and where it begins. */
         private int token;
+        private int here;
+        /** How many tokens are open. */
         private int open;
 
         Parser(Tokens tokens, Tree tree) {
@@ -738,6 +733,7 @@ public final class PlantKeeper {
             fault = 0;
             at = 0;
             token = tokens.kind[0];
+            here = tokens.place[0];
             open = 0;
             tree.size = 0;
             int text = tree.add(Tree.TEXT, 0, 0);
@@ -753,11 +749,12 @@ public final class PlantKeeper {
             if (fault == 0 && token == due && at + 1 < tokens.size) {
                 at++;
                 token = tokens.kind[at];
+                here = tokens.place[at];
                 return;
             }
             if (fault == 0) {
                 fault = token == Tokens.WRONG ? tokens.value[at] : 6;
-                faultPlace = tokens.place[at];
+                faultPlace = here;
             }
             token = BROKEN;
         }
@@ -766,21 +763,17 @@ public final class PlantKeeper {
         private void deepen() {
             if (open >= DEEPEST && fault == 0) {
                 fault = 7;
-                faultPlace = tokens.place[at];
+                faultPlace = here;
                 token = BROKEN;
             }
             open++;
-        }
-
-        private int leaf(int kind, int value) {
-            return tree.add(kind, tokens.place[at], value);
         }
 
         private int block() {
             int word = token;
             int kind = word == Tokens.FUNCTION ? Tree.FUNCTION
                 : word == Tokens.FUNCTION_BLOCK ? Tree.FUNCTION_BLOCK : Tree.PROGRAM;
-            int node = leaf(kind, 0);
+            int node = tree.add(kind, here, 0);
             take(kind == Tree.PROGRAM ? Tokens.PROGRAM : word);
             tree.value[node] = tokens.value[at];
             take(Tokens.NAME);
@@ -802,7 +795,7 @@ public final class PlantKeeper {
         }
 
         private int section() {
-            int node = leaf(Tree.SECTION, token - Tokens.FIRST_SECTION);
+            int node = tree.add(Tree.SECTION, here, token - Tokens.FIRST_SECTION);
             take(token);
             int last = NOTHING;
             for (int turn = 0; turn < TAPE_SIZE && token == Tokens.NAME; turn++) {
@@ -813,17 +806,17 @@ public final class PlantKeeper {
         }
 
         private int declaration() {
-            int node = leaf(Tree.DECLARATION, 0);
-            int last = tree.hang(node, NOTHING, leaf(Tree.DECLARED, tokens.value[at]));
+            int node = tree.add(Tree.DECLARATION, here, 0);
+            int last = tree.hang(node, NOTHING, tree.add(Tree.DECLARED, here, tokens.value[at]));
             take(Tokens.NAME);
             for (int turn = 0; turn < TAPE_SIZE && token == ','; turn++) {
                 take(',');
-                last = tree.hang(node, last, leaf(Tree.DECLARED, tokens.value[at]));
+                last = tree.hang(node, last, tree.add(Tree.DECLARED, here, tokens.value[at]));
                 take(Tokens.NAME);
             }
             if (token == Tokens.AT) {
                 take(Tokens.AT);
-                last = tree.hang(node, last, leaf(Tree.PLACE, tokens.value[at]));
+                last = tree.hang(node, last, tree.add(Tree.PLACE, here, tokens.value[at]));
                 take(Tokens.PLACE);
             }
             take(':');
@@ -837,7 +830,7 @@ public final class PlantKeeper {
         }
 
         private int simpleType() {
-            int node = leaf(Tree.TYPE, token - Tokens.FIRST_TYPE);
+            int node = tree.add(Tree.TYPE, here, token - Tokens.FIRST_TYPE);
             boolean simple = token >= Tokens.FIRST_TYPE && token <= Tokens.LAST_TYPE;
             take(simple ? token : NOTHING);
             return node;
@@ -845,14 +838,14 @@ public final class PlantKeeper {
 
         private int type() {
             if (token == Tokens.NAME) {
-                int node = leaf(Tree.BLOCK_TYPE, tokens.value[at]);
+                int node = tree.add(Tree.BLOCK_TYPE, here, tokens.value[at]);
                 take(Tokens.NAME);
                 return node;
             }
             if (token != Tokens.ARRAY) {
                 return simpleType();
             }
-            int node = leaf(Tree.ARRAY, 0);
+            int node = tree.add(Tree.ARRAY, here, 0);
             take(Tokens.ARRAY);
             take('[');
             int last = tree.hang(node, NOTHING, constant());
@@ -866,11 +859,11 @@ public final class PlantKeeper {
 
         private int constant() {
             if (token == Tokens.TRUE || token == Tokens.FALSE) {
-                int truth = leaf(Tree.TRUTH, token == Tokens.TRUE ? 1 : 0);
+                int truth = tree.add(Tree.TRUTH, here, token == Tokens.TRUE ? 1 : 0);
                 take(token);
                 return truth;
             }
-            int node = leaf(Tree.NUMBER, 0);
+            int node = tree.add(Tree.NUMBER, here, 0);
             boolean minus = token == '-';
             if (minus) {
                 take('-');
@@ -886,7 +879,7 @@ public final class PlantKeeper {
         }
 
         private int statements() {
-            int body = leaf(Tree.BODY, 0);
+            int body = tree.add(Tree.BODY, here, 0);
             int last = NOTHING;
             for (int turn = 0; turn < TAPE_SIZE && isStatement(); turn++) {
                 if (token != ';') {
@@ -906,14 +899,14 @@ public final class PlantKeeper {
                     boolean call = at + 1 < tokens.size && tokens.kind[at + 1] == '(';
                     return call ? invocation() : assignment();
                 default:
-                    int node = leaf(token == Tokens.EXIT ? Tree.EXIT : Tree.RETURN, 0);
+                    int node = tree.add(token == Tokens.EXIT ? Tree.EXIT : Tree.RETURN, here, 0);
                     take(token);
                     return node;
             }
         }
 
         private int ifStatement() {
-            int node = leaf(Tree.IF, 0);
+            int node = tree.add(Tree.IF, here, 0);
             deepen();
             int last = NOTHING;
             int word = Tokens.IF;
@@ -938,13 +931,13 @@ public final class PlantKeeper {
         }
 
         private int caseStatement() {
-            int node = leaf(Tree.CASE, 0);
+            int node = tree.add(Tree.CASE, here, 0);
             deepen();
             take(Tokens.CASE);
             int last = tree.hang(node, NOTHING, wholeExpression());
             take(Tokens.OF);
             for (int turn = 0; turn < TAPE_SIZE && isConstant(); turn++) {
-                int choice = leaf(Tree.CHOICE, 0);
+                int choice = tree.add(Tree.CHOICE, here, 0);
                 last = tree.hang(node, last, choice);
                 int range = ranges(choice);
                 tree.hang(choice, range, statements());
@@ -962,7 +955,7 @@ public final class PlantKeeper {
             int last = NOTHING;
             boolean more = true;
             for (int turn = 0; turn < TAPE_SIZE && more; turn++) {
-                int range = leaf(Tree.RANGE, 0);
+                int range = tree.add(Tree.RANGE, here, 0);
                 int first = tree.hang(range, NOTHING, constant());
                 if (token == Tokens.RANGE) {
                     take(Tokens.RANGE);
@@ -976,7 +969,7 @@ public final class PlantKeeper {
         }
 
         private int forStatement() {
-            int node = leaf(Tree.FOR, 0);
+            int node = tree.add(Tree.FOR, here, 0);
             deepen();
             take(Tokens.FOR);
             tree.value[node] = tokens.value[at];
@@ -997,7 +990,7 @@ public final class PlantKeeper {
         }
 
         private int assignment() {
-            int target = leaf(Tree.NAME, tokens.value[at]);
+            int target = tree.add(Tree.NAME, here, tokens.value[at]);
             take(Tokens.NAME);
             if (token == '[') {
                 tree.kind[target] = Tree.ELEMENT;
@@ -1007,7 +1000,7 @@ public final class PlantKeeper {
                 take(']');
                 open--;
             }
-            int node = leaf(Tree.ASSIGNMENT, 0);
+            int node = tree.add(Tree.ASSIGNMENT, here, 0);
             take(Tokens.ASSIGN);
             tree.hang(node, NOTHING, target);
             tree.hang(node, target, wholeExpression());
@@ -1015,14 +1008,14 @@ public final class PlantKeeper {
         }
 
         private int invocation() {
-            int node = leaf(Tree.INVOCATION, tokens.value[at]);
+            int node = tree.add(Tree.INVOCATION, here, tokens.value[at]);
             take(Tokens.NAME);
             deepen();
             take('(');
             int last = NOTHING;
             boolean more = token != ')';
             for (int turn = 0; turn < TAPE_SIZE && more; turn++) {
-                int parameter = leaf(Tree.PARAMETER, tokens.value[at]);
+                int parameter = tree.add(Tree.PARAMETER, here, tokens.value[at]);
                 take(Tokens.NAME);
                 take(Tokens.ASSIGN);
                 tree.hang(parameter, NOTHING, wholeExpression());
@@ -1070,7 +1063,7 @@ public final class PlantKeeper {
             int left = operand();
             int operator = operator();
             for (int turn = 0; turn < TAPE_SIZE && operator >= 0 && LEVEL[operator] >= level; turn++) {
-                int node = leaf(Tree.TWO, operator);
+                int node = tree.add(Tree.TWO, here, operator);
                 deepen();
                 take(token);
                 tree.hang(node, NOTHING, left);
@@ -1085,7 +1078,7 @@ public final class PlantKeeper {
             int node;
             switch (token) {
                 case '-': case Tokens.NOT:
-                    node = leaf(Tree.ONE, token == '-' ? 0 : 1);
+                    node = tree.add(Tree.ONE, here, token == '-' ? 0 : 1);
                     deepen();
                     take(token);
                     tree.hang(node, NOTHING, operand());
@@ -1099,25 +1092,25 @@ public final class PlantKeeper {
                     open--;
                     return node;
                 case Tokens.TRUE: case Tokens.FALSE:
-                    node = leaf(Tree.TRUTH, token == Tokens.TRUE ? 1 : 0);
+                    node = tree.add(Tree.TRUTH, here, token == Tokens.TRUE ? 1 : 0);
                     take(token);
                     return node;
                 case Tokens.NAME:
                     return namedOperand();
                 default:
-                    node = leaf(Tree.NUMBER, tokens.value[at]);
+                    node = tree.add(Tree.NUMBER, here, tokens.value[at]);
                     take(Tokens.NUMBER);
                     return node;
             }
         }
 
         private int namedOperand() {
-            int node = leaf(Tree.NAME, tokens.value[at]);
+            int node = tree.add(Tree.NAME, here, tokens.value[at]);
             take(Tokens.NAME);
             if (token == '.') {
                 tree.kind[node] = Tree.OUTPUT;
                 take('.');
-                tree.hang(node, NOTHING, leaf(Tree.FIELD, tokens.value[at]));
+                tree.hang(node, NOTHING, tree.add(Tree.FIELD, here, tokens.value[at]));
                 take(Tokens.NAME);
             } else if (token == '[') {
                 tree.kind[node] = Tree.ELEMENT;
@@ -1146,24 +1139,20 @@ public final class PlantKeeper {
         }
 
         private int ladder() {
-            int node = leaf(Tree.LADDER, 0);
+            int node = tree.add(Tree.LADDER, here, 0);
             take(Tokens.LADDER);
             int last = NOTHING;
             for (int turn = 0; turn < TAPE_SIZE && token == Tokens.RUNG; turn++) {
-                last = tree.hang(node, last, rung());
+                int rung = tree.add(Tree.RUNG, here, 0);
+                take(Tokens.RUNG);
+                int lastRow = tree.hang(rung, NOTHING, row());
+                for (int further = 0; further < TAPE_SIZE && isCell(); further++) {
+                    lastRow = tree.hang(rung, lastRow, row());
+                }
+                take(Tokens.END_RUNG);
+                last = tree.hang(node, last, rung);
             }
             take(Tokens.END_LADDER);
-            return node;
-        }
-
-        private int rung() {
-            int node = leaf(Tree.RUNG, 0);
-            take(Tokens.RUNG);
-            int last = tree.hang(node, NOTHING, row());
-            for (int turn = 0; turn < TAPE_SIZE && isCell(); turn++) {
-                last = tree.hang(node, last, row());
-            }
-            take(Tokens.END_RUNG);
             return node;
         }
 
@@ -1173,11 +1162,11 @@ public final class PlantKeeper {
         }
 
         private int row() {
-            int node = leaf(Tree.ROW, 0);
+            int node = tree.add(Tree.ROW, here, 0);
             int last = tree.hang(node, NOTHING, ladderCell());
             for (int turn = 0; turn < TAPE_SIZE && (token == '|' || isCell()); turn++) {
                 if (token == '|') {
-                    last = tree.hang(node, last, leaf(Tree.LINK, 0));
+                    last = tree.hang(node, last, tree.add(Tree.LINK, here, 0));
                     take('|');
                 }
                 last = tree.hang(node, last, ladderCell());
@@ -1191,34 +1180,34 @@ public final class PlantKeeper {
                 return coil();
             }
             if (token == '-' || token == '*') {
-                int node = leaf(token == '-' ? Tree.WIRE : Tree.GAP, 0);
+                int node = tree.add(token == '-' ? Tree.WIRE : Tree.GAP, here, 0);
                 take(token);
                 return node;
             }
-            int contact = leaf(Tree.CONTACT, token == '/' ? 1 : token == '>' ? 2 : token == '<' ? 3 : 0);
+            int contact = tree.add(Tree.CONTACT, here, token == '/' ? 1 : token == '>' ? 2 : token == '<' ? 3 : 0);
             if (token != Tokens.NAME) {
                 take(isCell() ? token : NOTHING);
             }
-            int name = leaf(Tree.NAME, tokens.value[at]);
+            int name = tree.add(Tree.NAME, here, tokens.value[at]);
             take(Tokens.NAME);
             tree.hang(contact, NOTHING, name);
             if (token == '.') {
                 tree.kind[name] = Tree.OUTPUT;
                 take('.');
-                tree.hang(name, NOTHING, leaf(Tree.FIELD, tokens.value[at]));
+                tree.hang(name, NOTHING, tree.add(Tree.FIELD, here, tokens.value[at]));
                 take(Tokens.NAME);
             }
             return contact;
         }
 
         private int coil() {
-            int node = leaf(Tree.COIL, 0);
+            int node = tree.add(Tree.COIL, here, 0);
             take('(');
             if (token == '/' || token == '+' || token == '-') {
                 tree.value[node] = token == '/' ? 1 : token == '+' ? 2 : 3;
                 take(token);
             }
-            tree.hang(node, NOTHING, leaf(Tree.NAME, tokens.value[at]));
+            tree.hang(node, NOTHING, tree.add(Tree.NAME, here, tokens.value[at]));
             take(Tokens.NAME);
             take(')');
             return node;
@@ -1525,46 +1514,52 @@ public final class PlantKeeper {
         }
 
         private void leave(int node) {
-            int kind = tree.kind[node];
-            if (kind <= Tree.SECTION) {
-                leaveBlock(node, kind);
-            } else if (kind == Tree.DECLARED || kind != Tree.NAME && kind <= Tree.BLOCK_TYPE) {
-                leaveDeclared(node, kind);
-            } else if (kind >= Tree.RUNG && kind <= Tree.LINK) {
-                leaveLadder(node, kind);
-            } else if (kind > Tree.BODY && kind < Tree.LADDER) {
-                leaveStatement(node, kind);
-            } else {
-                leaveExpression(node, kind);
-            }
-        }
-
-        private void leaveBlock(int node, int kind) {
-            if (kind == Tree.SECTION) {
-                boolean wrong = plan.kind[block] == Tree.PROGRAM && section != VAR
-                    || plan.kind[block] == Tree.FUNCTION && section == VAR_OUTPUT;
-                refuseIf(wrong, 13, node);
-                return;
-            }
-            if (kind == Tree.TEXT) {
-                plan.layOut();
-                refuseIf(plan.program == NOTHING, 10, node);
-                refuseIf(plan.allCells > MOST_CELLS, 42, node);
-                return;
-            }
-            plan.cells[block] = plan.variableCells[block] + ownCells;
-            refuseIf(kind == Tree.FUNCTION && plan.inputs(block) > MOST_INPUTS, 44, node);
-        }
-
-        private void leaveDeclared(int node, int kind) {
-            switch (kind) {
+            int child = tree.child[node];
+            switch (tree.kind[node]) {
+                case Tree.TEXT: leaveText(node); break;
+                case Tree.FUNCTION: case Tree.FUNCTION_BLOCK: case Tree.PROGRAM: leaveBlock(node); break;
+                case Tree.SECTION: judgeSection(node); break;
+                case Tree.DECLARATION: judgeDeclaration(node); break;
                 case Tree.DECLARED: declareName(node); break;
                 case Tree.PLACE: judgePlace(node); break;
                 case Tree.ARRAY: judgeArray(node); break;
                 case Tree.BLOCK_TYPE: judgeBlockType(node); break;
-                case Tree.DECLARATION: judgeDeclaration(node); break;
+                case Tree.ASSIGNMENT: judgeAssignment(node); break;
+                case Tree.PARAMETER: judgeParameter(node); break;
+                case Tree.INVOCATION: tree.value[node] = variableAt(node, 0); break;
+                case Tree.IF: judgeIf(node); break;
+                case Tree.CASE: refuseIf(tree.type[child] == BOOL, 34, node); break;
+                case Tree.RANGE: judgeRange(node); break;
+                case Tree.FOR: judgeFor(node); break;
+                case Tree.EXIT: refuseIf(loops == 0, 37, node); break;
+                case Tree.RUNG: judgeRung(node); break;
+                case Tree.CONTACT: judgeContact(node); break;
+                case Tree.COIL: judgeCoil(node); break;
+                case Tree.LINK: refuseIf(tree.next[row] == NOTHING, 40, node); break;
+                case Tree.NUMBER: tree.type[node] = (byte) (tree.value[node] > 32767 ? DINT : INT); break;
+                case Tree.NAME: case Tree.ELEMENT: case Tree.OUTPUT: judgeVariable(node); break;
+                case Tree.CALL: judgeCall(node); break;
+                case Tree.TWO: judgeTwo(node); break;
+                case Tree.ONE: judgeOne(node); break;
                 default:
             }
+        }
+
+        private void leaveText(int node) {
+            plan.layOut();
+            refuseIf(plan.program == NOTHING, 10, node);
+            refuseIf(plan.allCells > MOST_CELLS, 42, node);
+        }
+
+        private void leaveBlock(int node) {
+            plan.cells[block] = plan.variableCells[block] + ownCells;
+            refuseIf(tree.kind[node] == Tree.FUNCTION && plan.inputs(block) > MOST_INPUTS, 44, node);
+        }
+
+        private void judgeSection(int node) {
+            boolean wrong = plan.kind[block] == Tree.PROGRAM && section != VAR
+                || plan.kind[block] == Tree.FUNCTION && section == VAR_OUTPUT;
+            refuseIf(wrong, 13, node);
         }
 
         private void declareName(int node) {
@@ -1671,27 +1666,6 @@ public final class PlantKeeper {
             }
         }
 
-        private void leaveExpression(int node, int kind) {
-            switch (kind) {
-                case Tree.NAME: case Tree.ELEMENT: case Tree.OUTPUT:
-                    judgeVariable(node, kind);
-                    break;
-                case Tree.NUMBER:
-                    tree.type[node] = (byte) (tree.value[node] > 32767 ? DINT : INT);
-                    break;
-                case Tree.CALL:
-                    judgeCall(node);
-                    break;
-                case Tree.TWO:
-                    judgeTwo(node);
-                    break;
-                case Tree.ONE:
-                    judgeOne(node);
-                    break;
-                default:
-            }
-        }
-
         /** Finds the variable that a node names; FAULT 20 or 21 if there is none of this form. */
         private int variableAt(int node, int form) {
             int variable = plan.variableHere(tree.value[node]);
@@ -1703,7 +1677,8 @@ public final class PlantKeeper {
             return variable;
         }
 
-        private void judgeVariable(int node, int kind) {
+        private void judgeVariable(int node) {
+            int kind = tree.kind[node];
             int form = kind == Tree.NAME ? Plan.SIMPLE : kind == Tree.ELEMENT ? Plan.ARRAY : 0;
             int variable = variableAt(node, form);
             if (fault != 0) {
@@ -1804,7 +1779,7 @@ public final class PlantKeeper {
 
         /** The type of two BOOLs, or of two numbers. */
         private static int alike(int x, int y) {
-            return x == BOOL && y == BOOL ? BOOL : wider(x, y);
+            return (x == BOOL) == (y == BOOL) ? Math.max(x, y) : NOTHING;
         }
 
         private static boolean fits(int type, int wanted) {
@@ -1847,35 +1822,10 @@ public final class PlantKeeper {
             }
         }
 
-        private void leaveStatement(int node, int kind) {
-            switch (kind) {
-                case Tree.ASSIGNMENT:
-                    judgeAssigned(tree.value[tree.child[node]], node);
-                    refuseIf(!fits(tree.type[tree.second(node)], tree.type[tree.child[node]]), 31, node);
-                    break;
-                case Tree.PARAMETER:
-                    judgeParameter(node);
-                    break;
-                case Tree.INVOCATION:
-                    tree.value[node] = variableAt(node, 0);
-                    break;
-                case Tree.IF:
-                    judgeIf(node);
-                    break;
-                case Tree.CASE:
-                    refuseIf(tree.type[tree.child[node]] == BOOL, 34, node);
-                    break;
-                case Tree.RANGE:
-                    judgeRange(node);
-                    break;
-                case Tree.FOR:
-                    judgeFor(node);
-                    break;
-                case Tree.EXIT:
-                    refuseIf(loops == 0, 37, node);
-                    break;
-                default:
-            }
+        private void judgeAssignment(int node) {
+            int target = tree.child[node];
+            judgeAssigned(tree.value[target], node);
+            refuseIf(!fits(tree.type[tree.next[target]], tree.type[target]), 31, node);
         }
 
         private void judgeAssigned(int variable, int node) {
@@ -1955,25 +1905,16 @@ public final class PlantKeeper {
             tree.type[node] = (byte) type;
         }
 
-        private void leaveLadder(int node, int kind) {
-            switch (kind) {
-                case Tree.RUNG:
-                    judgeRung(node);
-                    break;
-                case Tree.CONTACT:
-                    refuseIf(tree.type[tree.child[node]] != BOOL, 41, node);
-                    ownCells += tree.value[node] >= 2 ? 1 : 0;
-                    break;
-                case Tree.COIL:
-                    refuseIf(tree.next[node] != NOTHING, 39, node);
-                    refuseIf(tree.type[tree.child[node]] != BOOL, 41, node);
-                    judgeAssigned(tree.value[tree.child[node]], node);
-                    break;
-                case Tree.LINK:
-                    refuseIf(tree.next[row] == NOTHING, 40, node);
-                    break;
-                default:
-            }
+        private void judgeContact(int node) {
+            refuseIf(tree.type[tree.child[node]] != BOOL, 41, node);
+            ownCells += tree.value[node] >= 2 ? 1 : 0;
+        }
+
+        private void judgeCoil(int node) {
+            int child = tree.child[node];
+            refuseIf(tree.next[node] != NOTHING, 39, node);
+            refuseIf(tree.type[child] != BOOL, 41, node);
+            judgeAssigned(tree.value[child], node);
         }
 
         private void judgeRung(int node) {
@@ -2048,16 +1989,24 @@ public final class PlantKeeper {
         }
 
         /** Instructions that are too many are counted alone: the text will be refused. */
-        int emit(int newOp, int newA, int newB, int newC) {
+        int emit(int newOp, int newA) {
             int i = size;
             if (i < MOST_INSTRUCTIONS) {
                 op[i] = (byte) newOp;
                 a[i] = newA;
-                b[i] = newB;
-                c[i] = newC;
+                b[i] = 0;
+                c[i] = 0;
             }
             size++;
             return i;
+        }
+
+        /** The instruction that came last gets two numbers more. */
+        void with(int newB, int newC) {
+            if (size > 0 && size <= MOST_INSTRUCTIONS) {
+                b[size - 1] = newB;
+                c[size - 1] = newC;
+            }
         }
 
         /** All jumps of a chain, each of which tells the one before it, go to the next instruction. */
@@ -2122,41 +2071,32 @@ public final class PlantKeeper {
         }
 
         static int two(int k, int x, int y) {
-            if (isByZero(k, y)) {
-                return 0;
-            }
             switch (k) {
                 case 0: return (short) (x + y);
                 case 1: return (short) (x - y);
                 case 2: return (short) (x * y);
-                case 3: return (short) (x / y);
-                case 4: return (short) (x % y);
+                case 3: return y == 0 ? 0 : (short) (x / y);
+                case 4: return y == 0 ? 0 : (short) (x % y);
                 case 5: return x + y;
                 case 6: return x - y;
                 case 7: return x * y;
-                case 8: return x / y;
-                case 9: return x % y;
+                case 8: return y == 0 ? 0 : x / y;
+                case 9: return y == 0 ? 0 : x % y;
                 case 10: return x & y;
                 case 11: return x | y;
                 case 12: return x ^ y;
+                case 13: return x == y ? 1 : 0;
+                case 14: return x != y ? 1 : 0;
+                case 15: return x < y ? 1 : 0;
+                case 16: return x > y ? 1 : 0;
+                case 17: return x <= y ? 1 : 0;
+                case 18: return x >= y ? 1 : 0;
                 case 19: return y < 0 || y > 15 ? 0 : (short) (x << y);
                 case 20: return y < 0 || y > 15 ? 0 : (short) ((x & 65535) >> y);
                 case 21: return y < 0 || y > 31 ? 0 : x << y;
                 case 22: return y < 0 || y > 31 ? 0 : x >>> y;
                 case 23: return Math.min(x, y);
-                case 24: return Math.max(x, y);
-                default: return holds(k, x, y) ? 1 : 0;
-            }
-        }
-
-        private static boolean holds(int k, int x, int y) {
-            switch (k) {
-                case 13: return x == y;
-                case 14: return x != y;
-                case 15: return x < y;
-                case 16: return x > y;
-                case 17: return x <= y;
-                default: return x >= y;
+                default: return Math.max(x, y);
             }
         }
 
@@ -2210,12 +2150,16 @@ public final class PlantKeeper {
             linked = new boolean[WIDTH * WIDTH];
         }
 
-        void codeAll() {
+        int codeAll() {
             code.forget();
+            if (plan.blocks - Plan.STANDARD > MOST_UNITS) {
+                return 50;
+            }
             for (block = Plan.STANDARD; block < plan.blocks; block++) {
                 codeBlock();
                 code.endUnit();
             }
+            return code.size > MOST_INSTRUCTIONS ? 50 : 0;
         }
 
         private void codeBlock() {
@@ -2240,17 +2184,13 @@ public final class PlantKeeper {
             }
         }
 
-        private void emit(int op, int a) {
-            code.emit(op, a, 0, 0);
-        }
-
         private void beginFunction() {
-            emit(Code.PUSH, 0);
-            emit(Code.STORE, 0);
+            code.emit(Code.PUSH, 0);
+            code.emit(Code.STORE, 0);
             for (int variable = plan.first[block]; variable < plan.behind[block]; variable++) {
                 if (plan.section[variable] == VAR) {
-                    emit(Code.PUSH, plan.constant[variable]);
-                    emit(Code.STORE, plan.cell[variable]);
+                    code.emit(Code.PUSH, plan.constant[variable]);
+                    code.emit(Code.STORE, plan.cell[variable]);
                 }
             }
         }
@@ -2267,8 +2207,8 @@ public final class PlantKeeper {
                     case Tree.IF: codeIf(node, depth + 1); break;
                     case Tree.CASE: codeCase(node, depth + 1); break;
                     case Tree.FOR: codeFor(node, depth + 1); break;
-                    case Tree.EXIT: exits = code.emit(Code.GO, exits, 0, 0); break;
-                    default: emit(Code.LEAVE, 0);
+                    case Tree.EXIT: exits = code.emit(Code.GO, exits); break;
+                    default: code.emit(Code.LEAVE, 0);
                 }
                 node = tree.next[node];
             }
@@ -2279,11 +2219,12 @@ public final class PlantKeeper {
             int variable = tree.value[target];
             if (tree.kind[target] == Tree.NAME) {
                 codeExpression(tree.next[target], 0);
-                emit(Code.STORE, plan.cell[variable]);
+                code.emit(Code.STORE, plan.cell[variable]);
             } else {
                 codeExpression(tree.child[target], 0);
                 codeExpression(tree.next[target], 0);
-                code.emit(Code.PUT, plan.cell[variable], plan.low[variable], plan.length[variable]);
+                code.emit(Code.PUT, plan.cell[variable]);
+                code.with(plan.low[variable], plan.length[variable]);
             }
         }
 
@@ -2293,22 +2234,23 @@ public final class PlantKeeper {
             int parameter = tree.child[node];
             for (int turn = 0; turn < tree.size && parameter != NOTHING; turn++) {
                 codeExpression(tree.child[parameter], 0);
-                emit(Code.STORE, cell + plan.cell[tree.value[parameter]]);
+                code.emit(Code.STORE, cell + plan.cell[tree.value[parameter]]);
                 parameter = tree.next[parameter];
             }
             int meant = plan.instanceOf[variable];
             if (meant < Plan.STANDARD) {
-                code.emit(Code.BLOCK, meant, cell, 0);
+                code.emit(Code.BLOCK, meant);
             } else {
-                code.emit(Code.ENTER, meant - Plan.STANDARD, cell, 0);
+                code.emit(Code.ENTER, meant - Plan.STANDARD);
             }
+            code.with(cell, 0);
         }
 
         /** A body that is gone through if a condition holds; tells the chain of jumps to the end. */
         private int codeBranch(int body, boolean last, int chain, int depth) {
-            int unless = code.emit(Code.UNLESS, NOTHING, 0, 0);
+            int unless = code.emit(Code.UNLESS, NOTHING);
             codeBody(body, depth + 1);
-            int ends = last ? chain : code.emit(Code.GO, chain, 0, 0);
+            int ends = last ? chain : code.emit(Code.GO, chain);
             code.joinHere(unless);
             return ends;
         }
@@ -2334,7 +2276,7 @@ public final class PlantKeeper {
             ownCell++;
             int child = tree.child[node];
             codeExpression(child, 0);
-            emit(Code.STORE, own);
+            code.emit(Code.STORE, own);
             int chain = NOTHING;
             child = tree.next[child];
             for (int turn = 0; turn < tree.size && child != NOTHING; turn++) {
@@ -2355,19 +2297,19 @@ public final class PlantKeeper {
             for (int turn = 0; turn < tree.size && tree.kind[range] == Tree.RANGE; turn++) {
                 int low = tree.child[range];
                 int high = tree.next[low];
-                emit(Code.LOAD, own);
-                emit(Code.PUSH, tree.value[low]);
+                code.emit(Code.LOAD, own);
+                code.emit(Code.PUSH, tree.value[low]);
                 if (high == NOTHING) {
-                    emit(Code.TWO, Code.IS_EQUAL);
+                    code.emit(Code.TWO, Code.IS_EQUAL);
                 } else {
-                    emit(Code.TWO, Code.IS_NOT_BELOW);
-                    emit(Code.LOAD, own);
-                    emit(Code.PUSH, tree.value[high]);
-                    emit(Code.TWO, Code.IS_NOT_ABOVE);
-                    emit(Code.TWO, Code.BITS_AND);
+                    code.emit(Code.TWO, Code.IS_NOT_BELOW);
+                    code.emit(Code.LOAD, own);
+                    code.emit(Code.PUSH, tree.value[high]);
+                    code.emit(Code.TWO, Code.IS_NOT_ABOVE);
+                    code.emit(Code.TWO, Code.BITS_AND);
                 }
                 if (turn > 0) {
-                    emit(Code.TWO, Code.BITS_OR);
+                    code.emit(Code.TWO, Code.BITS_OR);
                 }
                 range = tree.next[range];
             }
@@ -2385,18 +2327,20 @@ public final class PlantKeeper {
             if (tree.isConstant(body)) {
                 body = tree.next[body];
             }
-            emit(Code.PUSH, first);
-            emit(Code.STORE, cell);
-            code.emit(Code.COUNT, own, (int) Code.times(first, last, step), 0);
-            int next = code.emit(Code.NEXT, NOTHING, own, 0);
+            code.emit(Code.PUSH, first);
+            code.emit(Code.STORE, cell);
+            code.emit(Code.COUNT, own);
+            code.with((int) Code.times(first, last, step), 0);
+            int next = code.emit(Code.NEXT, NOTHING);
+            code.with(own, 0);
             int outerExits = exits;
             exits = NOTHING;
             codeBody(body, depth + 1);
-            emit(Code.LOAD, cell);
-            emit(Code.PUSH, step);
-            emit(Code.TWO, tree.type[node] == INT ? Code.PLUS_16 : Code.PLUS_32);
-            emit(Code.STORE, cell);
-            emit(Code.BACK, next);
+            code.emit(Code.LOAD, cell);
+            code.emit(Code.PUSH, step);
+            code.emit(Code.TWO, tree.type[node] == INT ? Code.PLUS_16 : Code.PLUS_32);
+            code.emit(Code.STORE, cell);
+            code.emit(Code.BACK, next);
             code.joinHere(next);
             code.joinHere(exits);
             exits = outerExits;
@@ -2409,24 +2353,22 @@ public final class PlantKeeper {
             int value = tree.value[node];
             int child = tree.child[node];
             switch (tree.kind[node]) {
-                case Tree.NAME:
-                    emit(Code.LOAD, plan.cell[value]);
-                    break;
-                case Tree.OUTPUT:
-                    emit(Code.LOAD, plan.cell[value] + tree.value[child]);
+                case Tree.NAME: case Tree.OUTPUT:
+                    code.emit(Code.LOAD, cellOf(node));
                     break;
                 case Tree.ELEMENT:
                     codeExpression(child, depth + 1);
-                    code.emit(Code.TAKE, plan.cell[value], plan.low[value], plan.length[value]);
+                    code.emit(Code.TAKE, plan.cell[value]);
+                    code.with(plan.low[value], plan.length[value]);
                     break;
                 case Tree.TWO:
                     codeExpression(child, depth + 1);
                     codeExpression(tree.next[child], depth + 1);
-                    emit(Code.TWO, Code.operation(value, tree.type[node]));
+                    code.emit(Code.TWO, Code.operation(value, tree.type[node]));
                     break;
                 case Tree.ONE:
                     codeExpression(child, depth + 1);
-                    emit(Code.ONE, Code.turning(value == 0, tree.type[node]));
+                    code.emit(Code.ONE, Code.turning(value == 0, tree.type[node]));
                     break;
                 case Tree.STANDARD_CALL:
                     codeStandardCall(node, depth);
@@ -2435,7 +2377,7 @@ public final class PlantKeeper {
                     codeCall(node, depth);
                     break;
                 default:
-                    emit(Code.PUSH, value);
+                    code.emit(Code.PUSH, value);
             }
         }
 
@@ -2445,15 +2387,15 @@ public final class PlantKeeper {
             for (int turn = 0; turn < 3 && child != NOTHING; turn++) {
                 codeExpression(child, depth + 1);
                 if (function == Code.LIMIT && turn > 0) {
-                    emit(Code.TWO, turn == 1 ? Code.GREATER : Code.LESSER);
+                    code.emit(Code.TWO, turn == 1 ? Code.GREATER : Code.LESSER);
                 }
                 child = tree.next[child];
             }
             if (function == Code.SEL) {
-                emit(Code.CHOOSE, 0);
+                code.emit(Code.CHOOSE, 0);
             } else if (function != Code.LIMIT && function != Code.TO_DINT) {
                 int op = Code.ARGUMENTS[function] == 1 ? Code.ONE : Code.TWO;
-                emit(op, Code.standardKind(function, tree.type[node]));
+                code.emit(op, Code.standardKind(function, tree.type[node]));
             }
         }
 
@@ -2467,11 +2409,12 @@ public final class PlantKeeper {
             }
             for (int variable = plan.behind[called] - 1; variable >= plan.first[called]; variable--) {
                 if (plan.section[variable] == VAR_INPUT) {
-                    code.emit(Code.WRITE, unit, plan.cell[variable], 0);
+                    code.emit(Code.WRITE, unit);
+                    code.with(plan.cell[variable], 0);
                 }
             }
-            emit(Code.CALL, unit);
-            code.emit(Code.READ, unit, 0, 0);
+            code.emit(Code.CALL, unit);
+            code.emit(Code.READ, unit);
         }
 
         private void codeRung(int rung) {
@@ -2549,71 +2492,72 @@ public final class PlantKeeper {
                     codeWay(cell, row, column);
                     ways++;
                     if (ways > 1) {
-                        emit(Code.TWO, Code.BITS_OR);
+                        code.emit(Code.TWO, Code.BITS_OR);
                     }
                 }
             }
             if (ways == 0) {
-                emit(Code.PUSH, 0);
+                code.emit(Code.PUSH, 0);
             }
-            emit(Code.STORE, power(first, column));
+            code.emit(Code.STORE, power(first, column));
         }
 
         private void codeWay(int cell, int row, int column) {
             if (column == 0) {
-                emit(Code.PUSH, 1);
+                code.emit(Code.PUSH, 1);
             } else {
-                emit(Code.LOAD, power(row, column - 1));
+                code.emit(Code.LOAD, power(row, column - 1));
             }
             if (tree.kind[cell] != Tree.CONTACT) {
                 return;
             }
-            int seen = tree.child[cell];
+            int seen = cellOf(tree.child[cell]);
             int kind = tree.value[cell];
-            if (kind < 2) {
-                codeExpression(seen, 0);
-                if (kind == 1) {
-                    emit(Code.ONE, Code.IS_ZERO);
-                }
-                emit(Code.TWO, Code.BITS_AND);
-            } else {
+            if (kind >= 2) {
                 codeEdge(seen, kind == 2, edgeCell[row * WIDTH + column]);
+                return;
             }
+            code.emit(Code.LOAD, seen);
+            if (kind == 1) {
+                code.emit(Code.ONE, Code.IS_ZERO);
+            }
+            code.emit(Code.TWO, Code.BITS_AND);
+        }
+
+        /** The cell of a simple variable, or of an instance's output. */
+        private int cellOf(int node) {
+            int cell = plan.cell[tree.value[node]];
+            return tree.kind[node] == Tree.OUTPUT ? cell + tree.value[tree.child[node]] : cell;
         }
 
         private void codeEdge(int seen, boolean rising, int own) {
-            if (rising) {
-                codeExpression(seen, 0);
-                emit(Code.LOAD, own);
-            } else {
-                emit(Code.LOAD, own);
-                codeExpression(seen, 0);
-            }
-            emit(Code.ONE, Code.IS_ZERO);
-            emit(Code.TWO, Code.BITS_AND);
-            emit(Code.TWO, Code.BITS_AND);
-            codeExpression(seen, 0);
-            emit(Code.STORE, own);
+            code.emit(Code.LOAD, rising ? seen : own);
+            code.emit(Code.LOAD, rising ? own : seen);
+            code.emit(Code.ONE, Code.IS_ZERO);
+            code.emit(Code.TWO, Code.BITS_AND);
+            code.emit(Code.TWO, Code.BITS_AND);
+            code.emit(Code.LOAD, seen);
+            code.emit(Code.STORE, own);
         }
 
         private void codeCoil(int coil, int row) {
             int kind = tree.value[coil];
             int cell = plan.cell[tree.value[tree.child[coil]]];
             if (kind >= 2) {
-                emit(Code.LOAD, cell);
+                code.emit(Code.LOAD, cell);
             }
             if (columns == 1) {
-                emit(Code.PUSH, 1);
+                code.emit(Code.PUSH, 1);
             } else {
-                emit(Code.LOAD, power(row, columns - 2));
+                code.emit(Code.LOAD, power(row, columns - 2));
             }
             if (kind == 1 || kind == 3) {
-                emit(Code.ONE, Code.IS_ZERO);
+                code.emit(Code.ONE, Code.IS_ZERO);
             }
             if (kind >= 2) {
-                emit(Code.TWO, kind == 2 ? Code.BITS_OR : Code.BITS_AND);
+                code.emit(Code.TWO, kind == 2 ? Code.BITS_OR : Code.BITS_AND);
             }
-            emit(Code.STORE, cell);
+            code.emit(Code.STORE, cell);
         }
     }
 
