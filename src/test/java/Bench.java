@@ -21,20 +21,25 @@ final class Bench {
         }
     }
 
-    /** Lays some bytes on an empty tape. */
+    /** Lays some bytes on the tape; those that are no twenty come first, so that it can get full. */
     static void tape(PlantKeeper x, int... bytes) {
-        int i = 0;
-        for (; i < bytes.length; i += 20) {
-            int[] w = new int[5];
-            for (int k = 0; k < 20; k++) {
-                int b = i + k < bytes.length ? bytes[i + k] : 0;
-                w[k / 4] |= (b & 255) << 24 - 8 * (k % 4);
-            }
-            x.feed(w[0], w[1], w[2], w[3], w[4]);
+        int odd = bytes.length % 20;
+        if (odd != 0) {
+            feed(x, bytes, 0);
+            x.end(odd);
         }
-        if (i != bytes.length) {
-            x.end(20 - (i - bytes.length));
+        for (int i = odd; i < bytes.length; i += 20) {
+            feed(x, bytes, i);
         }
+    }
+
+    private static void feed(PlantKeeper x, int[] bytes, int from) {
+        int[] w = new int[5];
+        for (int k = 0; k < 20; k++) {
+            int b = from + k < bytes.length ? bytes[from + k] : 0;
+            w[k / 4] |= (b & 255) << 24 - 8 * (k % 4);
+        }
+        x.feed(w[0], w[1], w[2], w[3], w[4]);
     }
 
     static void tape(PlantKeeper x, String text) {
