@@ -428,6 +428,7 @@ public final class PlantKeeper {
         static final int LADDER = WORD + 37, END_LADDER = WORD + 38, RUNG = WORD + 39;
         static final int END_RUNG = WORD + 40;
         private static final String SIGNS = "()[],;:.+-*/=<>&|";
+        private static final long GREATEST = 2147483647L;
 
         final char[] kind;
         final char[] place;
@@ -593,7 +594,7 @@ public final class PlantKeeper {
         }
 
         private boolean finishNumber(int behind, long number) {
-            if (Names.isPart(peek(behind)) || number > Integer.MAX_VALUE) {
+            if (Names.isPart(peek(behind)) || number > GREATEST) {
                 return refuse(4);
             }
             return finish(NUMBER, behind, (int) number);
