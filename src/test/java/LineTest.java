@@ -172,6 +172,7 @@ public final class LineTest {
             Bench.due("coil " + (10 + i), x.get(2, 10 + i), want[i]);
         }
         Bench.replied(x, request(1, 16, 0, 4, 0, 2, 4, 1, 2, 128, 0), 1, 16, 0, 4, 0, 2);
+        Bench.due("register 3", x.get(5, 3), 0);
         Bench.due("register 4", x.get(5, 4), 258);
         Bench.due("register 5", x.get(5, 5), -32768);
         Bench.due("register 6", x.get(5, 6), 0);

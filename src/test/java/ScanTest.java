@@ -159,6 +159,11 @@ public final class ScanTest {
         value("INT", "SHR(a, b)", 0, -1, 16);
         value("DINT", "SHL(d, b)", 1 << 31, 1, 15);
         value("DINT", "SHL(d, b)", 0, 1, 16);
+        value("DINT", "SHL(d, b)", 65536, 1, 0);
+        value("DINT", "SHR(d, b)", -65536, -1, 0);
+        value("INT", "SHL(a, b)", 7, 7, 0);
+        value("INT", "ABS(a OR b) + MAX(a OR b, b XOR 1)", 14, 5, 3);
+        value("BOOL", "TO_BOOL(a OR b) AND SEL(z OR y, z, z OR y)", 1, 5, 0);
         value("DINT", "SHR(d, b)", 1, -32768, 31);
         value("DINT", "SHR(d, b)", 0, -32768, 32);
         value("DINT", "SHR(d, b)", 0, -32768, -1);
