@@ -7,6 +7,7 @@ public final class AreasTest {
         wrongCalls();
         edges();
         safeOutputs();
+        kept();
         Bench.finish("AreasTest");
     }
 
@@ -73,6 +74,19 @@ public final class AreasTest {
         Bench.due("QX1", x.get(1, 1), 0);
         Bench.due("IX255", x.get(0, 255), 1);
         Bench.due("MX255", x.get(2, 255), 1);
+    }
+
+    /** What is not written stays as it is, at both ends of the areas. */
+    private static void kept() {
+        PlantKeeper x = Bench.loaded("PROGRAM p VAR a AT %QX0 : BOOL := TRUE; b AT %QX255 : BOOL := TRUE; c AT %MX0 : BOOL := TRUE; d AT %MX255 : BOOL := TRUE; "
+            + "e AT %QW0 : INT := 5; f AT %QW63 : INT := 6; g AT %MW0 : INT := 7; h AT %MW63 : INT := 8; END_VAR END_PROGRAM");
+        for (int i = 0; i < 2; i++) {
+            x.scan(1);
+            int[][] rows = {{1, 0, 1}, {1, 255, 1}, {2, 0, 1}, {2, 255, 1}, {4, 0, 5}, {4, 63, 6}, {5, 0, 7}, {5, 63, 8}, {1, 1, 0}, {4, 1, 0}};
+            for (int[] row : rows) {
+                Bench.due("area " + row[0] + " at " + row[1], x.get(row[0], row[1]), row[2]);
+            }
+        }
     }
 
     private static void safeOutputs() {

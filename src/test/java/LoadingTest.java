@@ -69,6 +69,10 @@ public final class LoadingTest {
         body("CASE a OF 1: b := 1; 2: b := a + a; END_CASE;", 2 + 4 + 4 + 4, 2 + 4 + 2 + 1 + 4 + 4, 1);
         body("FOR a := 1 TO 20 DO END_FOR;", 3 + 20 * 6 + 1, 9, 1);
         body("FOR a := 1 TO 0 DO END_FOR;", 4, 9, 1);
+        body("FOR a := 7 TO 7 DO END_FOR;", 3 + 6 + 1, 9, 1);
+        body("FOR a := 7 TO 7 BY -1 DO END_FOR;", 3 + 6 + 1, 9, 1);
+        body("FOR a := 7 TO 8 BY 2 DO END_FOR;", 3 + 6 + 1, 9, 1);
+        body("FOR a := 7 TO 9 BY 2 DO END_FOR;", 3 + 2 * 6 + 1, 9, 1);
         body("FOR a := 10 TO 1 BY -3 DO b := a; END_FOR;", 3 + 4 * 8 + 1, 11, 1);
     }
 

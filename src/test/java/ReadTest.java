@@ -42,6 +42,8 @@ public final class ReadTest {
         Bench.accepted("PROGRAM " + longest + " END_PROGRAM");
         Bench.refused(3, "PROGRAM @" + longest + "5 END_PROGRAM");
         Bench.refused(3, "@" + longest + "5");
+        Bench.accepted("PROGRAM p VAR " + longest + " : INT; END_VAR " + longest.toLowerCase() + " := 1; END_PROGRAM");
+        Bench.refused(12, "PROGRAM p VAR " + longest + ", @" + longest + " : INT; END_VAR END_PROGRAM");
         Bench.accepted("program P var _x1, X_1 : Bool; end_var _X1 := x_1; end_Program");
         Bench.refused(6, "PROGRAM @END_VAR END_PROGRAM");
         Bench.refused(6, "PROGRAM @dint END_PROGRAM");
@@ -70,6 +72,7 @@ public final class ReadTest {
         body(4, "d := @T#5;");
         body(4, "d := @t#5D;");
         body(4, "d := @T#5MSX;");
+        body(4, "d := @T#5AS;");
         body(4, "d := @T#5M5S;");
         body(4, "d := @T#5S1;");
         body(1, "d := t @#5MS;");
@@ -80,7 +83,7 @@ public final class ReadTest {
 
     private static void places() {
         Bench.accepted("PROGRAM p VAR a AT %iX0 : BOOL; b AT %QX255 : BOOL; c AT %mx007 : BOOL; "
-            + "d AT %IW63 : INT; e AT %qW0 : INT; f AT %MW1 : INT; END_VAR END_PROGRAM");
+            + "d AT %IW63 : INT; g AT %IX199 : BOOL; e AT %qW0 : INT; f AT %MW1 : INT; END_VAR END_PROGRAM");
         String[] wrong = {"%", "%I", "%IX", "%XI1", "%IB1", "%IX256", "%QX99999999999999999999", "%MX256", "%IW64",
             "%QW64", "%MW64", "%IX1a", "%IX1_", "% IX1", "%IX 1", "%I"};
         for (String place : wrong) {

@@ -19,6 +19,7 @@ public final class RulesTest {
         operators();
         assignments();
         invocations();
+        standardBlocks();
         statements();
         loops();
         ladders();
@@ -310,6 +311,30 @@ public final class RulesTest {
         body(21, "@a(nothing := 1, nothing := z);");
         body(20, "q(x := @w);");
         body(27, "t(zz := a @+ z);");
+    }
+
+    /** All inputs and outputs, and their types: inputs are told alone, outputs are read alone. */
+    private static void standardBlocks() {
+        String[][] rows = {{"TON", "IN z PT d", "Q z ET d"}, {"TOF", "IN z PT d", "Q z ET d"}, {"TP", "IN z PT d", "Q z ET d"},
+            {"CTU", "CU z R z PV a", "Q z CV a"}, {"CTD", "CD z LD z PV a", "Q z CV a"}, {"R_TRIG", "CLK z", "Q z"}, {"F_TRIG", "CLK z", "Q z"},
+            {"SR", "S1 z R z", "Q1 z"}, {"RS", "S z R1 z", "Q1 z"}};
+        for (String[] row : rows) {
+            String head = "PROGRAM p VAR z : BOOL; a : INT; d : DINT; k : " + row[0] + "; END_VAR ";
+            String[] inputs = row[1].split(" ");
+            String[] outputs = row[2].split(" ");
+            for (int i = 0; i < inputs.length; i += 2) {
+                Bench.accepted(head + "k(" + inputs[i] + " := " + inputs[i + 1] + "); END_PROGRAM");
+                Bench.refused(23, head + inputs[i + 1] + " := @k." + inputs[i] + "; END_PROGRAM");
+                String wrong = inputs[i + 1].equals("z") ? "a" : inputs[i + 1].equals("a") ? "d" : "z";
+                Bench.refused(31, head + "k(@" + inputs[i] + " := " + wrong + "); END_PROGRAM");
+            }
+            for (int i = 0; i < outputs.length; i += 2) {
+                Bench.accepted(head + outputs[i + 1] + " := k." + outputs[i] + "; END_PROGRAM");
+                Bench.refused(32, head + "k(@" + outputs[i] + " := " + outputs[i + 1] + "); END_PROGRAM");
+                String wrong = outputs[i + 1].equals("d") ? "a" : outputs[i + 1].equals("a") ? "z" : "d";
+                Bench.refused(31, head + wrong + " @:= k." + outputs[i] + "; END_PROGRAM");
+            }
+        }
     }
 
     private static void statements() {

@@ -78,6 +78,10 @@ public final class ScanTest {
         value("INT", "a * b", 16960, 1000, 1000);
         value("INT", "a / b", -3, 7, -2);
         value("INT", "a / b", -32768, -32768, -1);
+        value("INT", "a / b", 7, 7, 1);
+        value("INT", "a MOD b", 0, 7, 1);
+        value("DINT", "d / b", 65536, 1, 1);
+        value("DINT", "d MOD b", 0, 1, 1);
         value("INT", "a MOD b", 1, 7, -2);
         value("INT", "a MOD b", -1, -7, 2);
         value("INT", "a MOD b", 0, -32768, -1);
@@ -162,6 +166,13 @@ public final class ScanTest {
         value("DINT", "SHL(d, b)", 65536, 1, 0);
         value("DINT", "SHR(d, b)", -65536, -1, 0);
         value("INT", "SHL(a, b)", 7, 7, 0);
+        value("INT", "SHL(a, b)", 0, 7, 32);
+        value("INT", "SHL(a, b)", 0, 7, -32);
+        value("INT", "SHR(a, b)", 0, 7, 32);
+        value("INT", "SHR(a, b)", 0, 7, -32);
+        value("DINT", "SHL(d, b)", 0, 7, 32);
+        value("DINT", "SHL(d, b)", 0, 7, -32);
+        value("DINT", "SHR(d, b)", 0, 7, 64);
         value("INT", "ABS(a OR b) + MAX(a OR b, b XOR 1)", 14, 5, 3);
         value("BOOL", "TO_BOOL(a OR b) AND SEL(z OR y, z, z OR y)", 1, 5, 0);
         value("DINT", "SHR(d, b)", 1, -32768, 31);
@@ -272,6 +283,18 @@ public final class ScanTest {
             x.scan(1);
             for (int i = 0; i < 6; i++) {
                 Bench.due("output " + i + " of " + java.util.Arrays.toString(row), x.get(1, i), row[3 + i]);
+            }
+        }
+        PlantKeeper z = Bench.loaded("PROGRAM p VAR a AT %IX0 : BOOL; b AT %IX1 : BOOL; c AT %IX2 : BOOL; o AT %QX0 : BOOL; n AT %QX1 : BOOL; "
+            + "m AT %QX2 : BOOL; END_VAR LADDER RUNG >a (o); <b (n); >c (m); END_RUNG END_LADDER END_PROGRAM");
+        int[][] edges = {{0, 1, 1, 0, 0, 1}, {1, 1, 0, 1, 0, 0}, {1, 0, 1, 0, 1, 1}, {0, 0, 1, 0, 0, 0}, {1, 1, 0, 1, 0, 0}, {0, 0, 1, 0, 1, 1}};
+        for (int[] row : edges) {
+            for (int i = 0; i < 3; i++) {
+                z.put(0, i, row[i]);
+            }
+            z.scan(1);
+            for (int i = 0; i < 3; i++) {
+                Bench.due("edge " + i + " of " + java.util.Arrays.toString(row), z.get(1, i), row[3 + i]);
             }
         }
         PlantKeeper y = Bench.loaded("PROGRAM p VAR a AT %IX0 : BOOL; b AT %IX1 : BOOL; o AT %QX0 : BOOL; n AT %QX1 : BOOL; END_VAR LADDER "

@@ -53,6 +53,10 @@ public final class TapeTest {
         Bench.due("end(-1)", x.end(-1), PlantKeeper.BAD);
         Bench.due("end(21)", x.end(21), PlantKeeper.BAD);
         Bench.due("end(20)", x.end(20), 20);
+        Bench.due("end(19)", x.end(19), 19);
+        Bench.due("nineteen are fewer than twenty", x.end(0), PlantKeeper.BAD);
+        Bench.due("feed", x.feed(0, 0, 0, 0, 0), 39);
+        Bench.due("end(1)", x.end(1), 20);
         Bench.due("end(7)", x.end(7), 7);
         Bench.due("fewer than twenty", x.end(7), PlantKeeper.BAD);
         Bench.due("feed", x.feed(0, 0, 0, 0, 0), 27);

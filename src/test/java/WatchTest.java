@@ -24,6 +24,7 @@ public final class WatchTest {
         Bench.watched(x, "k.k.r[-2]", 2, -70000);
         Bench.watched(x, "k.k.r[12]", 2, -70000);
         Bench.watched(x, "k.k.r[0]", 2, -70000);
+        Bench.watched(x, "k.k.r[9]", 2, -70000);
         Bench.watched(x, "k.k.r[-0]", 2, -70000);
         Bench.watched(x, "k.k.t.pv", 1, 0);
         Bench.watched(x, "k.k.t.ld", 0, 0);
@@ -35,7 +36,7 @@ public final class WatchTest {
         Bench.watched(x, "t.In", 0, 1);
         Bench.watched(x, "s[-2]", 0, 1);
         String[] wrong = {"", " ", "a ", " a", "b.", ".a", "a.a", "a[1]", "r", "r[]", "r[-]", "r[0]", "r[4]", "r[-1]", "r[1", "r1]", "r[1]]", "r[1].a", "r[ 1]",
-            "r[+1]", "r[1]x", "r[16#1]", "r[99999999999999999999]", "r[-99999999999999999999]", "s[0]", "s[-0]", "s[-4]", "k", "k.", "k.k", "k.k.", "k.k.r",
+            "r[+1]", "r[1]x", "k.k.r[:]", "k.k.r[/1]", "k.k.r[1/]", "r[16#1]", "r[99999999999999999999]", "r[-99999999999999999999]", "s[0]", "s[-0]", "s[-4]", "k", "k.", "k.k", "k.k.", "k.k.r",
             "k.i", "k.k.k", "k.k.nothing", "k.k.r[13]", "t", "t.", "t.m", "t.cv", "t.q.q", "w.q", "main", "main.a", "f", "n", "f.n", "ton", "IF", "k..k", "%QX0", "a\0", "1",
             "aaaaaaaaaaaaaaaaaaaaaaaaaaaaaaaaaaaaaaaaaaaaaaaaaaaaaaaa", "\u00e4"};
         for (String path : wrong) {
