@@ -198,6 +198,8 @@ public final class RulesTest {
         body("a := ABS(a); d := ABS(d); a := MIN(a, b); d := MAX(a, d); d := LIMIT(a, b, d); a := LIMIT(1, a, 3);");
         body("a := SEL(z, a, b); d := SEL(z, a, d); z := SEL(z, z, TRUE); a := SHL(a, d); d := SHR(d, a);");
         body("a := TO_INT(z); a := TO_INT(a); a := TO_INT(d); d := TO_DINT(z); d := TO_DINT(a); z := TO_BOOL(a); z := TO_BOOL(d);");
+        Bench.accepted("FUNCTION f : INT VAR_INPUT a : INT; END_VAR END_FUNCTION FUNCTION_BLOCK g VAR_INPUT b : INT; END_VAR END_FUNCTION_BLOCK "
+            + "PROGRAM p VAR n : INT; END_VAR n := f(1); END_PROGRAM");
         body(24, "a := @nothing(1);");
         body(24, "a := @fb(1);");
         body(24, "a := @p(1);");

@@ -10,6 +10,7 @@ public final class ScanTest {
         statements();
         functions();
         instances();
+        nestedUnits();
         ladders();
         zero();
         index();
@@ -261,6 +262,21 @@ public final class ScanTest {
         x.scan(1);
         Bench.watched(x, "b.s.all", 2, 114);
         Bench.watched(x, "d", 2, 14);
+    }
+
+    /** Sixteen units, each of which begins the one before. */
+    private static void nestedUnits() {
+        StringBuilder text = new StringBuilder("FUNCTION_BLOCK b0 VAR_OUTPUT n : INT; END_VAR n := n + 1; END_FUNCTION_BLOCK ");
+        for (int i = 1; i < 15; i++) {
+            text.append("FUNCTION_BLOCK b").append(i).append(" VAR k : b").append(i - 1).append("; END_VAR VAR_OUTPUT n : INT; END_VAR k(); n := k.n + 1; END_FUNCTION_BLOCK ");
+        }
+        PlantKeeper x = Bench.loaded(text + "PROGRAM p VAR k : b14; n : INT; END_VAR k(); n := k.n; END_PROGRAM");
+        Bench.due("bound", x.count(2), 4 + 14 * 5 + 3);
+        Bench.due("scan", x.scan(1), 4 + 14 * 5 + 3);
+        Bench.watched(x, "n", 1, 15);
+        Bench.watched(x, "k.k.k.k.k.k.k.k.k.k.k.k.k.k.k.n", 1, 1);
+        x.scan(1);
+        Bench.watched(x, "n", 1, 16);
     }
 
     private static void ladders() {

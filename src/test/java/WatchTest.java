@@ -36,12 +36,16 @@ public final class WatchTest {
         Bench.watched(x, "t.In", 0, 1);
         Bench.watched(x, "s[-2]", 0, 1);
         String[] wrong = {"", " ", "a ", " a", "b.", ".a", "a.a", "a[1]", "r", "r[]", "r[-]", "r[0]", "r[4]", "r[-1]", "r[1", "r1]", "r[1]]", "r[1].a", "r[ 1]",
-            "r[+1]", "r[1]x", "k.k.r[:]", "k.k.r[/1]", "k.k.r[1/]", "r[16#1]", "r[99999999999999999999]", "r[-99999999999999999999]", "s[0]", "s[-0]", "s[-4]", "k", "k.", "k.k", "k.k.", "k.k.r",
+            "r[+1]", "r[1]x", "k.k.r[:]", "k.k.r[]", "k.k.r[-]", "k.k.r[/1]", "k.k.r[1/]", "r[16#1]", "r[99999999999999999999]", "r[-99999999999999999999]", "s[0]", "s[-0]", "s[-4]", "k", "k.", "k.k", "k.k.", "k.k.r",
             "k.i", "k.k.k", "k.k.nothing", "k.k.r[13]", "t", "t.", "t.m", "t.cv", "t.q.q", "w.q", "main", "main.a", "f", "n", "f.n", "ton", "IF", "k..k", "%QX0", "a\0", "1",
             "aaaaaaaaaaaaaaaaaaaaaaaaaaaaaaaaaaaaaaaaaaaaaaaaaaaaaaaa", "\u00e4"};
         for (String path : wrong) {
             Bench.notWatched(x, path);
         }
+        Bench.notWatched(x, "ab");
+        Bench.watched(x, "a", 1, -5);
+        Bench.notWatched(x, "k.k.i.");
+        Bench.notWatched(x, "k");
         Bench.watched(x, "w.q1", 0, 0);
         Bench.load(x, "PROGRAM p VAR z : INT := 4; END_VAR END_PROGRAM");
         Bench.due("watched stays behind load", x.watched(), 0);
