@@ -124,4 +124,38 @@ final class Bench {
         }
         due("behind the out of " + what, x.byteAt(want.length), PlantKeeper.BAD);
     }
+
+    static void dueText(String what, String got, String want) {
+        asked++;
+        if (!got.equals(want)) {
+            wrong++;
+            System.out.println(what + " answered\n  " + got + ", due is\n  " + want);
+        }
+    }
+
+    /** How many bytes lie on the tape, as long as there is room for twenty more. */
+    static int onTape(PlantKeeper x) {
+        return x.feed(0, 0, 0, 0, 0) == PlantKeeper.BAD ? PlantKeeper.BAD : x.end(0);
+    }
+
+    /** All that can be asked without a change: counts, some places, what was watched, station, out. */
+    static String state(PlantKeeper x) {
+        StringBuilder all = new StringBuilder("counts");
+        for (int which = 0; which <= 9; which++) {
+            all.append(' ').append(x.count(which));
+        }
+        for (int area = 0; area <= 5; area++) {
+            all.append(" area ").append(area).append(':');
+            for (int i : area < 3 ? new int[] {0, 1, 7, 255} : new int[] {0, 1, 7, 63}) {
+                all.append(' ').append(x.get(area, i));
+            }
+        }
+        int station = x.station(1);
+        x.station(station);
+        all.append(" watched ").append(x.watched()).append(" station ").append(station).append(" out");
+        for (int i = 0; i < 256 && x.byteAt(i) != PlantKeeper.BAD; i++) {
+            all.append(' ').append(x.byteAt(i));
+        }
+        return all.toString();
+    }
 }
