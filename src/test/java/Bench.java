@@ -85,6 +85,23 @@ final class Bench {
         due("load " + marked, load(x, text, budget), fault);
         due("count(0) of " + marked, x.count(0), fault);
         due("place of " + marked, x.count(1), fault == 0 ? PlantKeeper.NONE : Math.max(place, 0));
+        loadAgain(x, marked, text, budget);
+    }
+
+    private static PlantKeeper used = new PlantKeeper();
+    private static int usedCalls = 0;
+
+    /** An object that has loaded other texts before is due to tell the same as a new one. */
+    private static void loadAgain(PlantKeeper fresh, String marked, String text, int budget) {
+        usedCalls += text.length() / 20 + 10;
+        if (usedCalls > 512) {
+            used = new PlantKeeper();
+            usedCalls = text.length() / 20 + 10;
+        }
+        load(used, text, budget);
+        for (int which = 0; which <= 4; which++) {
+            due("count(" + which + ") behind other texts, of " + marked, used.count(which), fresh.count(which));
+        }
     }
 
     static void accepted(String text) {

@@ -58,6 +58,7 @@ public final class GrammarEdgesTest {
     public static void main(String[] args) {
         readRules();
         prefixes();
+        allOtherTokens();
         otherTokens();
         openOfEachKind();
         openOnesByChance();
@@ -223,6 +224,31 @@ public final class GrammarEdgesTest {
             Bench.due("the grammar of the test", firstWrong(tokens), -1);
             for (int n = 0; n <= tokens.size(); n++) {
                 compare(random, tokens.subList(0, n));
+            }
+        }
+    }
+
+    /** Texts that have each form of the grammar; each of their tokens is every other one once. */
+    private static void allOtherTokens() {
+        String[] texts = {"FUNCTION name : BOOL VAR name , name AT place : INT := - number ; END_VAR VAR_INPUT name : DINT := TRUE ; END_VAR VAR_OUTPUT name : name ; END_VAR END_FUNCTION",
+            "FUNCTION_BLOCK name VAR name : ARRAY [ number .. - number ] OF BOOL := FALSE ; END_VAR ; name := name . name + number ; EXIT ; RETURN ; END_FUNCTION_BLOCK",
+            "PROGRAM name name [ name ] := name [ - number ] ; name ( ) ; name ( name := NOT name , name := ( TRUE ) ) ; name := name ( ) * name ( name , number ) ; END_PROGRAM",
+            "PROGRAM name IF name eq name THEN ; ELSIF name <> name THEN name := number ; ELSE ; END_IF ; IF TRUE THEN END_IF ; END_PROGRAM",
+            "PROGRAM name CASE name OF number : ; - number .. number , TRUE : name := name ; ELSE ; END_CASE ; CASE number OF END_CASE ; END_PROGRAM",
+            "PROGRAM name FOR name := number TO - number BY number DO EXIT ; END_FOR ; FOR name := TRUE TO number DO END_FOR ; END_PROGRAM",
+            "PROGRAM name name := name OR name XOR name AND name & name < name > name <= name >= name - name over name MOD name ; END_PROGRAM",
+            "PROGRAM name LADDER RUNG name over name > name < name . name - * ( name ) ; END_RUNG RUNG name bar name ( over name ) ; ( + name ) ; ( - name ) ; END_RUNG END_LADDER END_PROGRAM"};
+        Random random = new Random(4);
+        for (String text : texts) {
+            List<String> tokens = List.of(text.split(" "));
+            Bench.due("a text of the grammar: " + text, firstWrong(tokens), -1);
+            for (int at = 0; at < tokens.size(); at++) {
+                for (String other : TERMINALS) {
+                    // What comes behind the token is left out: it is told of the first one that can't come.
+                    List<String> changed = new ArrayList<>(tokens.subList(0, at));
+                    changed.add(other);
+                    compare(random, changed);
+                }
             }
         }
     }

@@ -9,10 +9,12 @@ public final class LoadEdgesTest {
         sixteenBlocks();
         fourThousandInstructions();
         sixtyFourNumbers();
+        stackBehindEachInstruction();
         whatCanBeComeTo();
         oneThousandMillionSteps();
         budgets();
         orderOfFaults();
+        cellsSideBySide();
         allWays();
         Bench.finish("LoadEdgesTest");
     }
@@ -97,6 +99,34 @@ public final class LoadEdgesTest {
         PlantKeeper y = Bench.loaded(all + "PROGRAM p VAR x : INT := 77; END_VAR x := " + nested(9, inner) + "; END_PROGRAM");
         Bench.due("steps", y.scan(0) > 2000 ? 1 : 0, 1);
         Bench.watched(y, "x", 1, 77);
+    }
+
+    /** Each instruction takes as many numbers off as it is told to: behind it 64 go on the stack, 65 don't. */
+    private static void stackBehindEachInstruction() {
+        String[] before = {"x := 1;", "x := r[x];", "r[x] := x;", "r[x] := r[x];", "x := f(x, x, x, x, x, x, x, x);", "x := -x;", "x := NOT x;", "x := ABS(x);", "x := x * x;", "x := SEL(z, x, x);", "x := LIMIT(x, x, x);",
+            "x := SHL(x, x);", "d := TO_DINT(x);", "x := TO_INT(d);", "IF z THEN END_IF;", "IF z THEN ELSE END_IF;", "IF z THEN ; ELSIF z THEN ; ELSE END_IF;", "IF z THEN RETURN; END_IF;", "CASE x OF END_CASE;",
+            "CASE x OF 1: END_CASE;", "CASE x OF 1, 2 .. 3: ELSE END_CASE;", "FOR n := 1 TO 2 DO END_FOR;", "FOR n := 1 TO 2 DO EXIT; END_FOR;", "FOR n := 1 TO 0 DO x := 1; END_FOR;",
+            "FOR n := 1 TO 2 DO IF z THEN EXIT; END_IF; END_FOR;", "t();", "t(IN := z, PT := d);", "k();", "k(i := x);", "x := k.o;"};
+        String head = EIGHT + "FUNCTION_BLOCK g VAR_INPUT i : INT; END_VAR VAR_OUTPUT o : INT; END_VAR END_FUNCTION_BLOCK ";
+        String vars = "PROGRAM p VAR x, n : INT; d : DINT; z : BOOL; r : ARRAY [0 .. 1] OF INT; t : TON; k : g; END_VAR ";
+        for (String text : before) {
+            for (int times : new int[] {1, 3}) {
+                Bench.accepted(head + vars + text.repeat(times) + " x := " + high(64) + "; END_PROGRAM");
+                Bench.refused(51, head + "@" + vars + text.repeat(times) + " x := " + high(65) + "; END_PROGRAM");
+            }
+        }
+        // Within an expression, with sixty-two numbers below.
+        String[] inner = {"r[x]", "-x", "NOT x", "ABS(x)", "TO_INT(x)"};
+        for (String text : inner) {
+            Bench.accepted(head + vars + "x := " + nested(8, "f(" + text + ", " + text + ", 3, 4, 5, 6, 7, " + text + ")") + "; END_PROGRAM");
+            Bench.refused(51, head + "@" + vars + "x := " + nested(9, "x + " + text) + "; END_PROGRAM");
+            Bench.accepted(head + vars + "x := " + nested(9, text) + "; END_PROGRAM");
+        }
+        Bench.accepted(head + vars + "x := " + nested(8, "x + (x + (x + (x + (SEL(z, x, x) + x))))") + "; END_PROGRAM");
+        Bench.accepted(head + vars + "x := " + nested(8, "x + (x + (x + (x + (x + SEL(z, x, x)))))") + "; END_PROGRAM");
+        Bench.refused(51, head + "@" + vars + "x := " + nested(8, "x + (x + (x + (x + (x + (x + SEL(z, x, x))))))") + "; END_PROGRAM");
+        Bench.accepted(head + vars + "x := " + nested(8, "SEL(z, x, x) + (x + (x + (x + (x + (x + (x + x))))))") + "; END_PROGRAM");
+        Bench.refused(51, head + "@" + vars + "x := " + nested(8, "SEL(z, x, x) + (x + (x + (x + (x + (x + (x + (x + x)))))))") + "; END_PROGRAM");
     }
 
     /** "behind one of its instructions that can be come to (of a loop its body, whatever its COUNT, and what is behind it)" */
@@ -195,6 +225,48 @@ public final class LoadEdgesTest {
         Bench.refused(51, EIGHT + "@FUNCTION_BLOCK g " + vars + deep + "END_FUNCTION_BLOCK PROGRAM p " + vars + loop + "END_PROGRAM");
         Bench.refused(52, EIGHT + "@PROGRAM p " + vars + loop + "END_PROGRAM", 100);
         Bench.refused(51, EIGHT + "@PROGRAM p " + vars + deep + "FOR d := 1 TO 1000 DO END_FOR; END_PROGRAM", 100);
+    }
+
+    /** "A FUNCTION has a PLACE: behind the PROGRAM's cells, one FUNCTION behind the other": all 8,192 cells are used. */
+    private static void cellsSideBySide() {
+        // The PROGRAM has 4,096 cells and 1 of its FOR; fifteen FUNCTIONS have the others: 273 each.
+        StringBuilder functions = new StringBuilder();
+        StringBuilder calls = new StringBuilder();
+        for (int i = 0; i < 15; i++) {
+            StringBuilder names = new StringBuilder("q0");
+            for (int k = 1; k < 273 - 2 - 156; k++) {
+                names.append(",q").append(Integer.toString(k, 36));
+            }
+            functions.append("FUNCTION f").append(i).append(":BOOL VAR_INPUT x:BOOL;END_VAR VAR ").append(names).append(":BOOL:=TRUE;END_VAR LADDER RUNG x (f").append(i)
+                .append(");END_RUNG END_LADDER END_FUNCTION ");
+            calls.append("b").append(i).append(" := f").append(i).append("(i); ");
+        }
+        StringBuilder vars = new StringBuilder("i AT %IX0 : BOOL; n : INT; ");
+        for (int i = 0; i < 15; i++) {
+            vars.append("b").append(i).append(" : BOOL; ");
+        }
+        for (int i = 0; i < 12; i++) {
+            vars.append("r").append(i).append(" : ARRAY [1 .. 256] OF INT := ").append(100 + i).append("; ");
+        }
+        // 960, n, fifteen, 12 * 256 and 48 are 4,096.
+        vars.append("s : ARRAY [1 .. 47] OF INT := 7; last : INT := 8; ");
+        PlantKeeper x = Bench.loaded(functions + "PROGRAM p VAR " + vars + "END_VAR FOR n := 1 TO 3 DO " + calls + "END_FOR; END_PROGRAM");
+        Bench.due("cells", x.count(4), 4097 + 15 * 273);
+        for (int turn = 0; turn < 4; turn++) {
+            x.put(0, 0, turn % 2);
+            Bench.due("scan", x.scan(1), x.count(2));
+            for (int i = 0; i < 15; i++) {
+                Bench.watched(x, "b" + i, 0, turn % 2);
+            }
+            for (int i = 0; i < 12; i++) {
+                Bench.watched(x, "r" + i + "[1]", 1, 100 + i);
+                Bench.watched(x, "r" + i + "[256]", 1, 100 + i);
+            }
+            Bench.watched(x, "s[1]", 1, 7);
+            Bench.watched(x, "s[47]", 1, 7);
+            Bench.watched(x, "last", 1, 8);
+            Bench.watched(x, "n", 1, 4);
+        }
     }
 
     /** Statements by chance, with all ways through them: how many steps, on, by EXIT or by RETURN. */

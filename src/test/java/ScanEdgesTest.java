@@ -19,6 +19,7 @@ public final class ScanEdgesTest {
         beginningAnew();
         loadingAnew();
         safeOutputs();
+        functionsHaveTheirOwnCells();
         Bench.finish("ScanEdgesTest");
     }
 
@@ -388,5 +389,35 @@ public final class ScanEdgesTest {
         Bench.due("not published", x.get(4, 63), 1);
         x.restart();
         Bench.due("published", x.get(4, 63), 2);
+    }
+
+    /** Cells of FUNCTIONS lie behind the PROGRAM's, and behind one another: no call changes another one's. */
+    private static void functionsHaveTheirOwnCells() {
+        StringBuilder names = new StringBuilder("q0");
+        for (int i = 1; i < 900; i++) {
+            names.append(",q").append(Integer.toString(i, 36));
+        }
+        PlantKeeper x = Bench.loaded("FUNCTION f:INT VAR_INPUT a:INT;END_VAR VAR " + names + ":INT:=77;END_VAR f:=a+q0;END_FUNCTION PROGRAM p VAR v:INT:=5;i AT %IX0:BOOL;w:INT;END_VAR w:=f(v);END_PROGRAM");
+        x.scan(0);
+        Bench.watched(x, "w", 1, 82);
+        Bench.watched(x, "v", 1, 5);
+        Bench.watched(x, "i", 0, 0);
+        for (int area = 0; area < 6; area++) {
+            for (int i = 0; i < places(area); i += 3) {
+                Bench.due(AREAS[area] + i, x.get(area, i), 0);
+            }
+        }
+        PlantKeeper y = Bench.loaded("FUNCTION f : INT VAR_INPUT a, b : INT; END_VAR VAR c, d, e : INT := 3; END_VAR c := 1000; d := 2000; e := 4000; f := a * 10 + b; END_FUNCTION "
+            + "FUNCTION g : INT VAR_INPUT a, b : INT; END_VAR VAR c, d, e : INT := 5; END_VAR g := f(b, a) + a + b + c + d + e; END_FUNCTION "
+            + "FUNCTION h : INT VAR_INPUT a, b : INT; END_VAR VAR c, d, e : INT := 7; END_VAR h := g(b, a) + f(1, 1) + a + b + c + d + e; END_FUNCTION "
+            + "PROGRAM p VAR i AT %IX0 : BOOL; j AT %IX1 : BOOL; v, w : INT := 9; x, y : INT; END_VAR x := h(1, 2); y := g(3, 4) + h(5, 6); END_PROGRAM");
+        y.scan(0);
+        // f(a, b) is 10 a + b; g(a, b) is f(b, a) + a + b + 15; h(a, b) is g(b, a) + 11 + a + b + 21.
+        Bench.watched(y, "x", 1, (12 + 3 + 15) + 11 + 3 + 21);
+        Bench.watched(y, "y", 1, (43 + 7 + 15) + (56 + 11 + 15) + 11 + 11 + 21);
+        Bench.watched(y, "v", 1, 9);
+        Bench.watched(y, "w", 1, 9);
+        Bench.watched(y, "i", 0, 0);
+        Bench.watched(y, "j", 0, 0);
     }
 }

@@ -17,6 +17,7 @@ public final class TokenEdgesTest {
         whatComesInPlaces();
         signs();
         allBytes();
+        allBytesBehindOthers();
         Bench.finish("TokenEdgesTest");
     }
 
@@ -312,6 +313,63 @@ public final class TokenEdgesTest {
             boolean token = signs.indexOf(c) >= 0 || c >= '0' && c <= '9' || c >= 'A' && c <= 'Z' || c >= 'a' && c <= 'z' || c == '_';
             Bench.due("byte " + c, Bench.load(x, text), blank ? 0 : token ? 6 : c == '%' ? 5 : 1);
             Bench.due("place of byte " + c, x.count(1), blank ? PlantKeeper.NONE : 22);
+        }
+    }
+
+    private static boolean isDigit(int c) {
+        return c >= '0' && c <= '9';
+    }
+
+    private static boolean isLetter(int c) {
+        return c >= 'A' && c <= 'Z' || c >= 'a' && c <= 'z' || c == '_';
+    }
+
+    /** The fault of a byte that begins a token which can't come: 0 is a blank. */
+    private static int alone(int c) {
+        if (c == 9 || c == 10 || c == 13 || c == 32) {
+            return 0;
+        }
+        return c == '%' ? 5 : "()[],;:.+-*/=<>&|".indexOf(c) >= 0 ? 6 : 1;
+    }
+
+    /** Every byte right behind a name, each kind of number, and a place: part of it, its fault, or the next token. */
+    private static void allBytesBehindOthers() {
+        for (int c = 0; c < 256; c++) {
+            boolean part = isDigit(c) || isLetter(c);
+            boolean hex = isDigit(c) || c >= 'A' && c <= 'F' || c >= 'a' && c <= 'f';
+            String number = "PROGRAM p VAR d : DINT := ";
+            String tail = "; END_VAR END_PROGRAM";
+            behind(number, "1", c, tail, isDigit(c) ? 0 : isLetter(c) || c == '#' ? 4 : -1);
+            behind(number, "16#1", c, tail, hex ? 0 : part ? 4 : -1);
+            behind(number, "16#", c, tail, hex ? 0 : 4);
+            behind(number, "2#1", c, tail, c == '0' || c == '1' ? 0 : part ? 4 : -1);
+            behind(number, "2#", c, tail, c == '0' || c == '1' ? 0 : 4);
+            behind(number, "T#1S", c, tail, part ? 4 : -1);
+            behind(number, "T#1M", c, tail, c == 'S' || c == 's' ? 0 : part ? 4 : -1);
+            behind(number, "T#1MS", c, tail, part ? 4 : -1);
+            behind(number, "T#1", c, tail, "SsMmHh".indexOf(c) >= 0 ? 0 : 4);
+            behind(number, "T#", c, "S" + tail, isDigit(c) ? 0 : 4);
+            behind(number, "T", c, "5S" + tail, c == '#' ? 0 : 6);
+            behind("PROGRAM p VAR a AT ", "%IX1", c, " : BOOL; END_VAR END_PROGRAM", isDigit(c) ? 0 : isLetter(c) ? 5 : -1);
+            behind("PROGRAM p VAR a AT ", "%IX", c, " : BOOL; END_VAR END_PROGRAM", isDigit(c) ? 0 : 5);
+            behind("PROGRAM p VAR a AT ", "%I", c, "1 : BOOL; END_VAR END_PROGRAM", c == 'X' || c == 'x' ? 0 : c == 'W' || c == 'w' ? 15 : 5);
+            behind("PROGRAM p VAR a AT ", "%", c, "X1 : BOOL; END_VAR END_PROGRAM", "IiQqMm".indexOf(c) >= 0 ? 0 : 5);
+            behind("PROGRAM ", "n", c, " END_PROGRAM", part ? 0 : -1);
+        }
+    }
+
+    /** A token with a byte right behind it; -1: the token ends before it. The places of rules are not asked here. */
+    private static void behind(String head, String token, int c, String tail, int fault) {
+        if (fault < 0 && c == (token.startsWith("%") ? ':' : ';')) {
+            // It can come here.
+            return;
+        }
+        PlantKeeper x = new PlantKeeper();
+        String text = head + token + (char) c + tail;
+        int want = fault >= 0 ? fault : alone(c);
+        Bench.due("byte " + c + " behind " + token, Bench.load(x, text), want);
+        if (fault != 15) {
+            Bench.due("its place", x.count(1), want == 0 ? PlantKeeper.NONE : fault < 0 ? head.length() + token.length() : head.length());
         }
     }
 }
