@@ -11,6 +11,7 @@ public final class LoadEdgesTest {
         sixtyFourNumbers();
         stackBehindEachInstruction();
         whatCanBeComeTo();
+        timesOfLoops();
         oneThousandMillionSteps();
         budgets();
         orderOfFaults();
@@ -46,6 +47,15 @@ public final class LoadEdgesTest {
         PlantKeeper x = Bench.loaded(head + most + "END_PROGRAM");
         Bench.due("instructions", x.count(3), 4000);
         Bench.due("steps", x.scan(1), 4000);
+        // The last one of them does what it is told to: PUT, and BLOCK.
+        PlantKeeper w = Bench.loaded("PROGRAM p VAR a:INT;r:ARRAY[5..9] OF INT;t:TON;END_VAR " + "a:=1;".repeat(1998) + "t();r[7]:=a;END_PROGRAM");
+        Bench.due("instructions", w.count(3), 4000);
+        Bench.due("steps", w.scan(1), 4000);
+        Bench.watched(w, "r[7]", 1, 1);
+        PlantKeeper v = Bench.loaded("PROGRAM p VAR a:INT;q:R_TRIG;z:BOOL:=TRUE;END_VAR " + "a:=1;".repeat(1998) + "q();q(CLK:=z);END_PROGRAM");
+        Bench.due("instructions", v.count(3), 4000);
+        Bench.due("steps", v.scan(1), 4000);
+        Bench.watched(v, "q.q", 0, 1);
         PlantKeeper y = Bench.loaded(head + "a:=1;".repeat(1999) + "t();END_PROGRAM");
         Bench.due("instructions", y.count(3), 3999);
         Bench.refused(50, "@" + head + most + "t();END_PROGRAM");
@@ -146,6 +156,45 @@ public final class LoadEdgesTest {
         for (String text : never) {
             Bench.accepted(head.replace("@", "") + text.formatted(deep) + " END_PROGRAM");
         }
+    }
+
+    /** How often a FOR goes, for all small constants and at the ends of both types: counted in scans, and by the bound. */
+    private static void timesOfLoops() {
+        for (int first = -3; first <= 3; first++) {
+            for (int last = -3; last <= 3; last++) {
+                for (int step = -5; step <= 5; step++) {
+                    if (step != 0) {
+                        loop("INT", first, last, step);
+                        loop("DINT", first, last, step);
+                    }
+                }
+            }
+        }
+        long[][] ends = {{32766, 32767, 1}, {32767, 32767, 1}, {32765, 32767, 3}, {-32767, -32768, -1}, {-32768, -32768, -1}, {-32768, 32767, 32767}, {32767, -32768, -32768}, {-32768, 32767, -1}, {32767, -32768, 1}};
+        for (long[] row : ends) {
+            loop("INT", row[0], row[1], row[2]);
+            loop("DINT", row[0], row[1], row[2]);
+        }
+        long[][] far = {{2147483646, 2147483647, 1}, {2147483647, 2147483647, 1}, {-2147483646, -2147483647, -1}, {-2147483647, 2147483647, 2147483647}, {2147483647, -2147483647, -2147483647},
+            {-2147483647, 2147483647, 1000000007}, {-2147483647, 2147483647, -1}, {2147483647, -2147483647, 1}, {2147483600, 2147483647, 7}};
+        for (long[] row : far) {
+            loop("DINT", row[0], row[1], row[2]);
+        }
+    }
+
+    private static void loop(String type, long first, long last, long step) {
+        int times = 0;
+        for (long at = first; step > 0 ? at <= last : at >= last; at += step) {
+            times++;
+        }
+        PlantKeeper x = Bench.loaded("PROGRAM p VAR n : " + type + "; c : INT; s : DINT; END_VAR FOR n := " + first + " TO " + last + " BY " + step + " DO c := c + 1; s := n; END_FOR; END_PROGRAM");
+        // PUSH STORE COUNT NEXT, and for each time NEXT, the body's six, LOAD PUSH TWO STORE BACK.
+        Bench.due("bound of " + first + " TO " + last + " BY " + step, x.count(2), 4 + 12 * times);
+        Bench.due("scan of " + first + " TO " + last + " BY " + step, x.scan(0), 4 + 12 * times);
+        Bench.watched(x, "c", 1, times);
+        Bench.watched(x, "s", 2, times == 0 ? 0 : (int) (first + (times - 1) * step));
+        int end = (int) (first + times * step);
+        Bench.watched(x, "n", type.equals("INT") ? 1 : 2, type.equals("INT") ? (short) end : end);
     }
 
     /** A body of exactly so many steps, all of which are always gone. */

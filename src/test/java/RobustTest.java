@@ -136,6 +136,7 @@ public final class RobustTest {
         Random random = new Random(11);
         int scans = 0;
         int stops = 0;
+        PlantKeeper y = new PlantKeeper();
         for (int run = 0; run < 1500; run++) {
             String text = "FUNCTION f : DINT VAR_INPUT a, b : DINT; END_VAR IF a > b THEN RETURN; END_IF; f := a / b; END_FUNCTION "
                 + "PROGRAM p VAR v0, v1, v2, v3, l0, l1, l2, l3 : DINT; w0 AT %IW0 : INT; r : ARRAY [-50 .. 50] OF DINT := 3; t : TP; END_VAR v0 := w0; "
@@ -144,7 +145,8 @@ public final class RobustTest {
                 continue;
             }
             PlantKeeper x = new PlantKeeper();
-            PlantKeeper y = new PlantKeeper();
+            // The other one has loaded and run other texts before.
+            y = run % 8 == 0 ? new PlantKeeper() : y;
             int fault = Bench.load(x, text);
             Bench.due("the same fault", Bench.load(y, text), fault);
             if (fault != 0) {
@@ -157,6 +159,12 @@ public final class RobustTest {
                 y.put(3, 0, word);
                 int steps = x.scan(i);
                 Bench.due("the same steps", y.scan(i), steps);
+                for (String path : new String[] {"v0", "v1", "v2", "v3", "r[3]", "t.et"}) {
+                    Bench.tape(x, path);
+                    Bench.tape(y, path);
+                    Bench.due("the same type", y.watch(), x.watch());
+                    Bench.due("the same value of " + path + " in " + text, y.watched(), x.watched());
+                }
                 Bench.due("steps below the bound", x.count(5) <= x.count(2) ? 1 : 0, 1);
                 scans++;
                 if (steps < 0) {
