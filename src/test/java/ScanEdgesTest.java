@@ -20,6 +20,7 @@ public final class ScanEdgesTest {
         loadingAnew();
         safeOutputs();
         functionsHaveTheirOwnCells();
+        faultsLeaveNothingOver();
         Bench.finish("ScanEdgesTest");
     }
 
@@ -419,5 +420,20 @@ public final class ScanEdgesTest {
         Bench.watched(y, "w", 1, 9);
         Bench.watched(y, "i", 0, 0);
         Bench.watched(y, "j", 0, 0);
+    }
+
+    /** Numbers that lay on the stack when a scan came to a fault are gone, however often that was. */
+    private static void faultsLeaveNothingOver() {
+        String nine = "f(1, 2, 3, 4, 5, 6, 7, ".repeat(9);
+        String f = "FUNCTION f : INT VAR_INPUT a, b, c, d, e, g, h, i : INT; END_VAR f := i + a; END_FUNCTION ";
+        String g = "FUNCTION g : INT VAR_INPUT x : INT; END_VAR g := " + nine.substring(nine.length() / 9) + "100 / x" + ")".repeat(8) + "; END_FUNCTION ";
+        PlantKeeper x = Bench.loaded(f + g + "PROGRAM p VAR i AT %IW0 : INT; v : INT; END_VAR v := " + nine + "g(i)" + ")".repeat(9) + "; END_PROGRAM");
+        for (int turn = 0; turn < 40; turn++) {
+            Bench.due("fault", x.scan(1), ZERO);
+            Bench.due("restart", x.restart(), 0);
+        }
+        x.put(3, 0, 2);
+        Bench.due("scan", x.scan(1), x.count(2));
+        Bench.watched(x, "v", 1, 50 + 8 + 9);
     }
 }
