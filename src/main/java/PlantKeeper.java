@@ -2156,7 +2156,8 @@ public final class PlantKeeper {
             if (plan.blocks - Plan.STANDARD > MOST_UNITS) {
                 return 50;
             }
-            for (block = Plan.STANDARD; block < plan.blocks; block++) {
+            for (int coded = Plan.STANDARD; coded < plan.blocks; coded++) {
+                block = coded;
                 codeBlock();
                 code.endUnit();
             }
@@ -2725,6 +2726,8 @@ public final class PlantKeeper {
         private int top;
         /** Of each unit that has begun another one: where it goes on, where it ends, its cells. */
         private final int[] frames;
+        /** Where the cells of each unit's first instance are, once their constants are set. */
+        private final int[] firstInstance;
         private int depth;
         private int at;
         private int behind;
@@ -2739,6 +2742,7 @@ public final class PlantKeeper {
             cells = new int[MOST_CELLS];
             stack = new int[STACK];
             frames = new int[3 * (MOST_UNITS + 1)];
+            firstInstance = new int[MOST_UNITS];
         }
 
         void forget() {
@@ -2760,6 +2764,7 @@ public final class PlantKeeper {
         void beginAnew() {
             stopped = false;
             Arrays.fill(cells, 0);
+            Arrays.fill(firstInstance, NOTHING);
             for (int block = Plan.STANDARD; block < plan.blocks; block++) {
                 if (plan.kind[block] != Tree.FUNCTION_BLOCK) {
                     setConstants(block, plan.place[block], 0);
@@ -2776,12 +2781,31 @@ public final class PlantKeeper {
                 int instance = plan.instanceOf[variable];
                 int cell = from + plan.cell[variable];
                 if (instance >= Plan.STANDARD) {
-                    setConstants(instance, cell, level + 1);
+                    beginInstance(instance, cell, level + 1);
                 } else if (instance < 0) {
                     for (int i = 0; i < plan.length[variable]; i++) {
                         become(cell + i, plan.constant[variable]);
                     }
                 }
+            }
+        }
+
+        /**
+         * Instances of a block begin alike, so all but the first one are copies of that: each block's
+         * variables are gone through once. (Instances in instances may be more than any walk could
+         * go through: those without cells have no limit.)
+         */
+        private void beginInstance(int block, int from, int level) {
+            int unit = block - Plan.STANDARD;
+            int size = plan.cells[block];
+            if (unit < 0 || unit >= firstInstance.length || from < 0 || from + size > cells.length) {
+                return;
+            }
+            if (firstInstance[unit] == NOTHING) {
+                setConstants(block, from, level);
+                firstInstance[unit] = from;
+            } else {
+                System.arraycopy(cells, firstInstance[unit], cells, from, size);
             }
         }
 

@@ -13,17 +13,34 @@ final class Bench {
         }
     }
 
-    /** After some wrong answers the others are counted alone. */
+    /** After some wrong answers the others are counted alone; of long ones both ends are told. */
     private static void tell(String line) {
         wrong++;
+        int length = line.length();
         if (wrong <= 40) {
-            System.out.println(line);
+            System.out.println(length <= 2000 ? line : line.substring(0, 1000) + " .. " + line.substring(length - 1000));
         }
     }
 
     static void finish(String test) {
         System.out.println(test + ": " + asked + " answers, " + wrong + " wrong");
         if (wrong != 0) {
+            System.exit(1);
+        }
+    }
+
+    /** Calls that are due to end: if they do not within some seconds, that is told and the test is over. */
+    static void ends(String what, Runnable calls) {
+        Thread thread = new Thread(calls);
+        thread.setDaemon(true);
+        thread.start();
+        try {
+            thread.join(20000);
+        } catch (InterruptedException e) {
+            tell(what + " was interrupted");
+        }
+        if (thread.isAlive()) {
+            System.out.println(what + " did not end within 20 seconds");
             System.exit(1);
         }
     }
